@@ -18,11 +18,13 @@ public final class PatternDesk {
     private static final int MOST_ARGUMENTS = 4;
     // Each narrowing drops an ARG, and five unknowns have at most twenty: 25 rows can be needed.
     private static final int MOST_ROWS = 32;
-    private static final int MOST_NODES = 2048;
-    private static final int MOST_VARIABLES = 1024;
+    // 240 bytes hold fewer than 400 nodes, and none stands twice on one way down through a solution:
+    // the rows below are more than twice as long as any text can ask for.
+    private static final int MOST_NODES = 1024;
+    private static final int MOST_VARIABLES = 512;
     private static final int MOST_TYPES = 256;
-    private static final int MOST_LINKS = 2048;
-    private static final int MOST_PILED = 1024;
+    private static final int MOST_LINKS = 1024;
+    private static final int MOST_PILED = 512;
     private static final int MOST_STEPS = 4000000;
 
     private static final int RIGHT = 0;
@@ -638,7 +640,7 @@ public final class PatternDesk {
             return whole;
         }
 
-        /** The variable that a long form is but for eta, or NONE. */
+        /** The variable that a long form is but for eta, or NONE; by its type it is none of the binders. */
         private int asVariable(int node, int depth) {
             int inner = node;
             int bound = 0;
@@ -651,8 +653,7 @@ public final class PatternDesk {
             }
             int binder = node;
             for (int j = 0; j < bound; j++) {
-                int own = head(binder);
-                if (own == head(inner) || asVariable(argument(inner, j), depth + 1) != own) {
+                if (asVariable(argument(inner, j), depth + 1) != head(binder)) {
                     return NONE;
                 }
                 binder = body(binder);
@@ -1200,8 +1201,8 @@ public final class PatternDesk {
 
     /** Pattern unification: pairs that must become the same are taken apart, unknowns given as they come. */
     private static final class Solver {
-        // No set of ARGs has this bit, so that a given unknown is walked through at least once.
-        private static final int NOT_SEEN = 1 << MOST_ARGUMENTS;
+        // More than any set of ARGs, so that a given unknown is walked through at least once.
+        private static final int NOT_SEEN = (1 << (MOST_ARGUMENTS + 1)) - 1;
 
         private final Terms terms;
         private final Levels levels;

@@ -472,6 +472,18 @@ public final class PatternDeskPromises {
         // A variable of the solution may be bound inside of what is given.
         dueSolutions("met M:i->i;con q:(i->i)->i;con f:i->i->i;eq \\x:i.M x=\\x:i.q(\\y:i.f y x);", 0,
                 "\\x0.q (\\x1.f x1 x0)");
+        // The same given unknown is met twice, and another variable is forbidden each time.
+        dueSolutions("met M:i->i;met K:i->i->i;met N:i->i->i;con f:i->i->i;con g:i->i;eq\\x:i.\\y:i.K x y=\\x:i.\\y:i.g(N x y);"
+                + "eq\\x:i.\\y:i.M x=\\x:i.\\y:i.f(K x y)(K y x);", 1,
+                "\\x0.f (g h0) (g h0)", "\\x0.\\x1.g h0", "\\x0.\\x1.h0");
+        // Each eq here narrows an unknown again, by one variable.
+        String unknowns = "met A:i->i->i;met B:i->i->i;met C:i->i->i;met D:i->i->i;";
+        dueSolutions("con g:i->i->i->i->i;" + unknowns
+                + "eq\\x:i.\\y:i.\\z:i.g(A x y)(A x y)(B x y)(B x y)=\\x:i.\\y:i.\\z:i.g(A x z)(A z y)(B z y)(B x z);"
+                + "eq\\x:i.\\y:i.\\z:i.C x y=\\x:i.\\y:i.\\z:i.C x z;", 4,
+                "\\x0.\\x1.h0", "\\x0.\\x1.h1", "\\x0.\\x1.h2 x0", "\\x0.\\x1.h3 x0 x1");
+        dueSolutions("con g:i->i->i->i->i;met M:i->i->i->i->i;eq\\v:i.\\w:i.\\x:i.\\y:i.\\z:i.g(M w x y z)(M w x y z)(M w x y z)w="
+                + "\\v:i.\\w:i.\\x:i.\\y:i.\\z:i.g(M w x y v)(M w x v z)(M v x y z)w;", 1, "\\x0.\\x1.\\x2.\\x3.h0 x1");
         PatternDesk desk = solved("met M:i;", 0);
         due("solve() again", desk.solve(), 0);
         load(desk, "con a:i;con b:i;eq a=b;");
@@ -504,6 +516,10 @@ public final class PatternDeskPromises {
         dueSolutions("met M:i->i->i;", 1, "\\x0.\\x1.h0 x0 x1");
         dueSolutions("met M:(i->i)->i;", 1, "\\x0.h0 (\\x1.x0 x1)");
         dueSolutions("met M:((i->i)->i)->i->i;", 1, "\\x0.\\x1.h0 (\\x2.x0 (\\x3.x2 x3)) x1");
+        dueSolutions("met M:(((i->i)->i)->i)->i;", 1, "\\x0.h0 (\\x1.x0 (\\x2.x1 (\\x3.x2 x3)))");
+        dueSolutions("met M:(i->i->i)->i;", 1, "\\x0.h0 (\\x1.\\x2.x0 x1 x2)");
+        dueSolutions("con c:(((i->i)->i)->i)->i;met M:(((i->i)->i)->i)->i;eq c=M;", 0,
+                "\\x0.c (\\x1.x0 (\\x2.x1 (\\x3.x2 x3)))");
         dueSolutions("met M:(i->i)->i->i;con f:i->i;eq M=\\x:i->i.f;", 0, "\\x0.\\x1.f x1");
         dueSolutions("met M:(i->i)->i->i;eq M=\\x:i->i.x;", 0, "\\x0.\\x1.x0 x1");
         dueSolutions("met M:i->i;con f:(i->i)->i;con g:i->i->i;eq \\y:i.f(g y)=\\z:i.M z;", 0, "\\x0.f (\\x1.g x0 x1)");
@@ -516,7 +532,7 @@ public final class PatternDeskPromises {
                 "\\x0.\\x1.\\x2.h0 x1");
         // Numbers go by the first place in the solutions, not by the text.
         dueSolutions("met N:i->i;met M:i->i->i;con f:i->i->i;met K:i;eq \\x:i.N x=\\x:i.f K(f K x);", 2,
-                 "\\x0.f h0 (f h0 x0)", "\\x0.\\x1.h1 x0 x1", "h0");
+                "\\x0.f h0 (f h0 x0)", "\\x0.\\x1.h1 x0 x1", "h0");
         // ARGs stand in the order of their binders where the unknown comes first.
         dueSolutions("met A:i->i->i;met B:i->i->i;con q:(i->i)->i;met C:i->i;eq \\x:i.C x=\\x:i.q(\\y:i.B y x);", 2,
                 "\\x0.\\x1.h0 x0 x1", "\\x0.\\x1.h1 x0 x1", "\\x0.q (\\x1.h1 x1 x0)");
