@@ -239,6 +239,18 @@ public final class PatternDeskPromises {
         dueFault("con a:i abcdefghi", 8);
         dueRight("con f:i->i;con a:i;eq f a=f(a);eq\\x:i.f x=\\x:i.f(f x);");
         dueRight("con a:i->o;con b:i  ->  o;");
+        dueRight("con a0:i;con b9:i;");
+        // What lies behind the first n bytes, or lay there earlier, is not looked at.
+        PatternDesk desk = new PatternDesk();
+        due("load(11)", load(desk, "con a:i->i;"), 0);
+        feed(desk, "con a:i->i;");
+        due("load(8)", desk.load(8), -2);
+        due("told(0)", desk.told(0), 7);
+        due("load(16)", load(desk, "con abcdefghi:i;"), -2);
+        due("told(0)", desk.told(0), 4);
+        feed(desk, "con abcdefghi:i;");
+        due("load(12)", desk.load(12), -2);
+        due("told(0)", desk.told(0), 12);
     }
 
     private static void promise3Depth() {
@@ -255,6 +267,7 @@ public final class PatternDeskPromises {
         dueRight(head + times("f(", 20) + "a" + times(")", 20) + "=a;");
         dueRight(head + times("f(", 20) + "f a" + times(")", 20) + "=a;");
         dueFault(head + times("f(", 21) + "a" + times(")", 21) + "=a;", 22 + 42);
+        dueFault(head + times("f(", 21) + times(")", 21) + "=a;", 22 + 42);
         String binders = times("\\x:i.", 20);
         dueRight("eq " + binders + "x=" + binders + "x;");
         // The TYPE of a \ lies in the \ and in all around it.
@@ -465,6 +478,10 @@ public final class PatternDeskPromises {
         dueSolutions("met M:i;met N:i->i;met K:i->i;con f:i->i;eq N=\\x:i.f(K x);eq \\x:i.M=\\x:i.N x;", 1,
                 "f h0", "\\x0.f h0", "\\x0.h0");
         dueNoUnifier("met M:i;met N:i->i;con f:i->i;eq N=\\x:i.f x;eq \\x:i.M=\\x:i.N x;");
+        dueNoUnifier("met M:i->i;met N:i;con g:i->i;eq \\x:i.x=\\x:i.M x;eq \\x:i.N=\\x:i.g(M x);");
+        // Only the variables that what is given has are passed on.
+        dueSolutions("con g:i->i;met K:i->i;met M:i->i->i;eq \\x:i.g x=\\x:i.K x;eq \\x:i.\\y:i.M x y=\\x:i.\\y:i.K x;", 0,
+                "\\x0.g x0", "\\x0.\\x1.g x0");
         // A variable dropped earlier may not come back.
         dueNoUnifier("met M:i->i->i;con f:i->i;eq \\x:i.\\y:i.M x y=\\x:i.\\y:i.M y x;eq \\x:i.\\y:i.M x y=\\x:i.\\y:i.f x;");
         dueSolutions("met M:i->i->i;con a:i;eq \\x:i.\\y:i.M x y=\\x:i.\\y:i.M y x;eq \\x:i.\\y:i.M x y=\\x:i.\\y:i.a;", 0,
@@ -538,6 +555,8 @@ public final class PatternDeskPromises {
                 "\\x0.\\x1.h0 x0 x1", "\\x0.\\x1.h1 x0 x1", "\\x0.q (\\x1.h1 x1 x0)");
         dueSolutions("met C:i->i;met B:i->i->i;con q:(i->i)->i;eq \\x:i.C x=\\x:i.q(\\y:i.B y x);", 1,
                 "\\x0.q (\\x1.h0 x0 x1)", "\\x0.\\x1.h0 x1 x0");
+        dueSolutions("met C:i->i->i;met B:i->i->i->i;con q:(i->i)->i;eq \\x:i.\\y:i.C x y=\\x:i.\\y:i.q(\\z:i.B z y x);", 1,
+                "\\x0.\\x1.q (\\x2.h0 x0 x1 x2)", "\\x0.\\x1.\\x2.h0 x2 x1 x0");
         PatternDesk desk = solved("met M:i;", 0);
         for (int k : new int[] {-1, 1, 5, Integer.MIN_VALUE, Integer.MAX_VALUE}) {
             due("size(" + k + ")", desk.size(k), NONE);
@@ -633,6 +652,13 @@ public final class PatternDeskPromises {
         due("side far back", desk.side(Integer.MIN_VALUE, 1), NONE);
         load(desk, "con a:i;eq a=a;");
         due("side(0, 0) before solve()", desk.side(0, 0), NONE);
+        // Variables have as many digits as they need.
+        String binders = "\\a:i.\\b:i.\\c:i.\\d:i.\\e:i.\\f:i.\\g:i.\\h:i.\\j:i.\\k:i.\\l:i.\\m:i.";
+        PatternDesk tenth = solved("eq " + binders + "k=" + binders + "k;", 0);
+        PatternDesk eleventh = solved("eq " + binders + "l=" + binders + "l;", 0);
+        String around = "\\x0.\\x1.\\x2.\\x3.\\x4.\\x5.\\x6.\\x7.\\x8.\\x9.\\x10.\\x11.";
+        dueText("the tenth of many", written(tenth, 0, 1), around + "x9");
+        dueText("the eleventh of many", written(eleventh, 0, 0), around + "x10");
         // The sides have the numbers and the orders of the solutions.
         PatternDesk numbered = solved("met M:i->i;met N:i->i->i;eq \\x:i.\\y:i.N y x=\\x:i.\\y:i.N y x;", 0);
         dueText("an open side", written(numbered, 0, 0), "\\x0.\\x1.h1 x1 x0");
