@@ -25,7 +25,7 @@ public final class PatternDesk {
     private static final int MOST_TYPES = 256;
     private static final int MOST_LINKS = 1024;
     private static final int MOST_PILED = 512;
-    private static final int MOST_STEPS = 4000000;
+    private static final int MOST_STEPS = 1000000;
 
     private static final int RIGHT = 0;
     private static final int FAULT = -2;
@@ -1649,7 +1649,7 @@ public final class PatternDesk {
 
         private void putNumber(int number) {
             int unit = 1;
-            for (int turn = 0; turn < 9 && number / unit >= 10; turn++) {
+            for (int turn = 0; turn < 8 && unit * 10 <= number; turn++) {
                 unit *= 10;
             }
             for (int turn = 0; turn < 10 && unit > 0; turn++) {
