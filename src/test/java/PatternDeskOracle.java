@@ -1,5 +1,6 @@
 import java.util.ArrayDeque;
 import java.util.ArrayList;
+import java.util.Collections;
 import java.util.Deque;
 import java.util.HashMap;
 import java.util.List;
@@ -889,7 +890,7 @@ public final class PatternDeskOracle {
                 k = below(arities.length);
             }
             List<String> variables = new ArrayList<>(List.of("x", "y", "z", "u", "v", "w").subList(0, around));
-            java.util.Collections.shuffle(variables, random);
+            Collections.shuffle(variables, random);
             return arities[k] > around ? "a" : names[k] + " " + String.join(" ", variables.subList(0, arities[k]));
         }
 
@@ -935,7 +936,7 @@ public final class PatternDeskOracle {
             while (equations.size() < 4 && chance(40)) {
                 equations.add("eq " + names[below(chain)] + "=" + names[below(chain)] + ";");
             }
-            java.util.Collections.shuffle(equations, random);
+            Collections.shuffle(equations, random);
             return made + String.join("", equations);
         }
 
