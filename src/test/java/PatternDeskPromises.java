@@ -1,9 +1,5 @@
 /** Each promise of the document by hand: ordinary inputs, the edges it names, and wrong inputs. */
-public final class PatternDeskPromises {
-    private static final int NONE = PatternDesk.NONE;
-    private static int wrong = 0;
-    private static String section = "";
-
+public final class PatternDeskPromises extends Dues {
     public static void main(String[] args) {
         promise1NewObject();
         promise2Feed();
@@ -22,121 +18,12 @@ public final class PatternDeskPromises {
         promise9Letter();
         promise10Side();
         promise11SideLetter();
-        System.out.println(wrong == 0 ? "all promises hold" : wrong + " answers are wrong");
-        System.exit(wrong == 0 ? 0 : 1);
-    }
-
-    private static void due(String call, long got, long want) {
-        if (got != want) {
-            wrong++;
-            System.out.println(section + ": " + call + " answered " + got + ", due is " + want);
-        }
-    }
-
-    private static void dueText(String call, String got, String want) {
-        if (!want.equals(got)) {
-            wrong++;
-            System.out.println(section + ": " + call + " answered " + got + ", due is " + want);
-        }
-    }
-
-    private static int word(String text, int at) {
-        int made = 0;
-        for (int i = at; i < at + 4; i++) {
-            made = made << 8 | (i < text.length() ? text.charAt(i) & 255 : 32);
-        }
-        return made;
-    }
-
-    private static void feed(PatternDesk desk, String text) {
-        for (int at = 0; at < text.length(); at += 20) {
-            desk.feed(word(text, at), word(text, at + 4), word(text, at + 8), word(text, at + 12), word(text, at + 16));
-        }
-    }
-
-    private static int load(PatternDesk desk, String text) {
-        feed(desk, text);
-        return desk.load(text.length());
-    }
-
-    private static void dueRight(String text) {
-        PatternDesk desk = new PatternDesk();
-        due("load of " + text, load(desk, text), 0);
-        due("told(0) of " + text, desk.told(0), NONE);
-        due("told(1) of " + text, desk.told(1), NONE);
-    }
-
-    private static void dueFault(String text, int place) {
-        PatternDesk desk = new PatternDesk();
-        due("load of " + text, load(desk, text), -2);
-        due("told(0) of " + text, desk.told(0), place);
-        due("told(1) of " + text, desk.told(1), 0);
-        due("count(0) of " + text, desk.count(0), NONE);
-        due("solve() of " + text, desk.solve(), NONE);
-    }
-
-    private static void dueWrong(String text, int number, int place) {
-        PatternDesk desk = new PatternDesk();
-        due("load of " + text, load(desk, text), -3);
-        due("told(0) of " + text, desk.told(0), place);
-        due("told(1) of " + text, desk.told(1), number);
-        due("count(0) of " + text, desk.count(0), NONE);
-        due("solve() of " + text, desk.solve(), NONE);
-    }
-
-    private static PatternDesk solved(String text, int answer) {
-        PatternDesk desk = new PatternDesk();
-        due("load of " + text, load(desk, text), 0);
-        due("solve() of " + text, desk.solve(), answer);
-        return desk;
-    }
-
-    private static String solution(PatternDesk desk, int k) {
-        StringBuilder made = new StringBuilder();
-        for (int i = 0; i < desk.size(k); i++) {
-            made.append((char) desk.letter(k, i));
-        }
-        return made.toString();
-    }
-
-    private static String written(PatternDesk desk, int k, int side) {
-        StringBuilder made = new StringBuilder();
-        for (int i = 0; i < desk.side(k, side); i++) {
-            made.append((char) desk.sideLetter(k, side, i));
-        }
-        return made.toString();
-    }
-
-    private static void dueSolutions(String text, int fresh, String... solutions) {
-        PatternDesk desk = solved(text, 0);
-        due("fresh() of " + text, desk.fresh(), fresh);
-        for (int k = 0; k < solutions.length; k++) {
-            due("size(" + k + ") of " + text, desk.size(k), solutions[k].length());
-            dueText("solution " + k + " of " + text, solution(desk, k), solutions[k]);
-        }
-        due("size beyond of " + text, desk.size(solutions.length), NONE);
-        for (int k = 0; k < desk.count(2); k++) {
-            dueText("sides of eq " + k + " of " + text, written(desk, k, 0), written(desk, k, 1));
-        }
-    }
-
-    private static void dueNoUnifier(String text) {
-        PatternDesk desk = solved(text, 1);
-        due("fresh() of " + text, desk.fresh(), NONE);
-        due("size(0) of " + text, desk.size(0), NONE);
-        due("letter(0, 0) of " + text, desk.letter(0, 0), NONE);
-        due("side(0, 0) of " + text, desk.side(0, 0), NONE);
-        due("sideLetter(0, 1, 0) of " + text, desk.sideLetter(0, 1, 0), NONE);
-        due("solve() again of " + text, desk.solve(), 1);
-    }
-
-    private static String times(String part, int n) {
-        return part.repeat(n);
+        end("all promises hold");
     }
 
     private static void promise1NewObject() {
-        section = "promise 1";
-        PatternDesk desk = new PatternDesk();
+        section("promise 1");
+        Desk desk = new Desk();
         due("NONE", PatternDesk.NONE, -1);
         for (int what = -1; what <= 3; what++) {
             due("told", desk.told(what), NONE);
@@ -153,8 +40,8 @@ public final class PatternDeskPromises {
     }
 
     private static void promise2Feed() {
-        section = "promise 2";
-        PatternDesk desk = new PatternDesk();
+        section("promise 2");
+        Desk desk = new Desk();
         for (int n = 20; n <= 240; n += 20) {
             due("feed", desk.feed(0x20202020, 0x0a0d0920, 0x20202020, 0x20202020, 0x20202020), n);
         }
@@ -175,8 +62,8 @@ public final class PatternDeskPromises {
     }
 
     private static void promise3Load() {
-        section = "promise 3";
-        PatternDesk desk = new PatternDesk();
+        section("promise 3");
+        Desk desk = new Desk();
         due("load(0)", desk.load(0), 0);
         due("count(2)", desk.count(2), 0);
         feed(desk, "met M:i;");
@@ -207,7 +94,7 @@ public final class PatternDeskPromises {
     }
 
     private static void promise3Tokens() {
-        section = "promise 3, tokens";
+        section("promise 3, tokens");
         dueRight("con a:i;");
         dueRight("\tcon\r\na : i ;\n");
         dueRight("con abcdefgh:i;");
@@ -241,7 +128,7 @@ public final class PatternDeskPromises {
         dueRight("con a:i->o;con b:i  ->  o;");
         dueRight("con a0:i;con b9:i;");
         // What lies behind the first n bytes, or lay there earlier, is not looked at.
-        PatternDesk desk = new PatternDesk();
+        Desk desk = new Desk();
         due("load(11)", load(desk, "con a:i->i;"), 0);
         feed(desk, "con a:i->i;");
         due("load(8)", desk.load(8), -2);
@@ -254,7 +141,7 @@ public final class PatternDeskPromises {
     }
 
     private static void promise3Depth() {
-        section = "promise 3, depth";
+        section("promise 3, depth");
         dueRight("con a:" + times("(", 20) + "i" + times(")", 20) + ";");
         dueFault("con a:" + times("(", 21) + "i" + times(")", 21) + ";", 27);
         dueFault("con a:" + times("(", 22) + "i" + times(")", 22) + ";", 27);
@@ -282,7 +169,7 @@ public final class PatternDeskPromises {
     }
 
     private static void promise4Faults() {
-        section = "promise 4, faults";
+        section("promise 4, faults");
         dueFault("con", 3);
         dueFault("con ", 4);
         dueFault("  con a:i;  x", 12);
@@ -327,7 +214,7 @@ public final class PatternDeskPromises {
     }
 
     private static void promise4Wrong() {
-        section = "promise 4, wrong";
+        section("promise 4, wrong");
         dueWrong("con a:i;con b:i;con a:o;", 1, 20);
         dueWrong("met a:i;con a:i;", 1, 12);
         dueWrong("met a:i;met a:i;", 1, 12);
@@ -371,7 +258,7 @@ public final class PatternDeskPromises {
     }
 
     private static void promise4Order() {
-        section = "promise 4, order";
+        section("promise 4, order");
         // An item further left comes first, whatever its number.
         dueWrong("eq a=a;con b:i;con b:i;", 2, 3);
         // An ARG of another type is found before the pattern of the unknown, even in a later ARG.
@@ -390,7 +277,7 @@ public final class PatternDeskPromises {
     }
 
     private static void promise4Sixes() {
-        section = "promise 4, number 6";
+        section("promise 4, number 6");
         String eight = "con a:i;con b:i;con c:i;con d:i;con e:i;con f:i;con g:i;con h:i;";
         String five = "met A:i;met B:i;met C:i;met D:i;met E:i;";
         String four = times("eq a=a;", 4);
@@ -422,8 +309,8 @@ public final class PatternDeskPromises {
     }
 
     private static void promise4Told() {
-        section = "promise 4, told";
-        PatternDesk desk = new PatternDesk();
+        section("promise 4, told");
+        Desk desk = new Desk();
         load(desk, "con a:i;con a:i;");
         for (int what : new int[] {-1, 2, 3, 6, Integer.MIN_VALUE, Integer.MAX_VALUE}) {
             due("told of another", desk.told(what), NONE);
@@ -438,8 +325,8 @@ public final class PatternDeskPromises {
     }
 
     private static void promise5Count() {
-        section = "promise 5";
-        PatternDesk desk = new PatternDesk();
+        section("promise 5");
+        Desk desk = new Desk();
         load(desk, "con a:i;con b:i;met M:i;eq a=b;met N:i;eq M=N;eq a=M;con c:i;");
         due("count(0)", desk.count(0), 3);
         due("count(1)", desk.count(1), 2);
@@ -458,7 +345,7 @@ public final class PatternDeskPromises {
     }
 
     private static void promise6Solve() {
-        section = "promise 6";
+        section("promise 6");
         dueSolutions("", 0);
         dueSolutions("con a:i;eq a=a;", 0);
         dueNoUnifier("con a:i;con b:i;eq a=b;");
@@ -501,7 +388,7 @@ public final class PatternDeskPromises {
                 "\\x0.\\x1.h0", "\\x0.\\x1.h1", "\\x0.\\x1.h2 x0", "\\x0.\\x1.h3 x0 x1");
         dueSolutions("con g:i->i->i->i->i;met M:i->i->i->i->i;eq\\v:i.\\w:i.\\x:i.\\y:i.\\z:i.g(M w x y z)(M w x y z)(M w x y z)w="
                 + "\\v:i.\\w:i.\\x:i.\\y:i.\\z:i.g(M w x y v)(M w x v z)(M v x y z)w;", 1, "\\x0.\\x1.\\x2.\\x3.h0 x1");
-        PatternDesk desk = solved("met M:i;", 0);
+        Desk desk = solved("met M:i;", 0);
         due("solve() again", desk.solve(), 0);
         load(desk, "con a:i;con b:i;eq a=b;");
         due("fresh() of a text that is not solved yet", desk.fresh(), NONE);
@@ -509,8 +396,8 @@ public final class PatternDeskPromises {
     }
 
     private static void promise7Fresh() {
-        section = "promise 7";
-        PatternDesk desk = new PatternDesk();
+        section("promise 7");
+        Desk desk = new Desk();
         load(desk, "met M:i;met N:i;met K:o;eq M=N;");
         due("fresh() before solve()", desk.fresh(), NONE);
         desk.solve();
@@ -529,7 +416,7 @@ public final class PatternDeskPromises {
     }
 
     private static void promise8Size() {
-        section = "promise 8";
+        section("promise 8");
         dueSolutions("met M:i->i->i;", 1, "\\x0.\\x1.h0 x0 x1");
         dueSolutions("met M:(i->i)->i;", 1, "\\x0.h0 (\\x1.x0 x1)");
         dueSolutions("met M:((i->i)->i)->i->i;", 1, "\\x0.\\x1.h0 (\\x2.x0 (\\x3.x2 x3)) x1");
@@ -557,7 +444,7 @@ public final class PatternDeskPromises {
                 "\\x0.q (\\x1.h0 x0 x1)", "\\x0.\\x1.h0 x1 x0");
         dueSolutions("met C:i->i->i;met B:i->i->i->i;con q:(i->i)->i;eq \\x:i.\\y:i.C x y=\\x:i.\\y:i.q(\\z:i.B z y x);", 1,
                 "\\x0.\\x1.q (\\x2.h0 x0 x1 x2)", "\\x0.\\x1.\\x2.h0 x2 x1 x0");
-        PatternDesk desk = solved("met M:i;", 0);
+        Desk desk = solved("met M:i;", 0);
         for (int k : new int[] {-1, 1, 5, Integer.MIN_VALUE, Integer.MAX_VALUE}) {
             due("size(" + k + ")", desk.size(k), NONE);
         }
@@ -569,7 +456,7 @@ public final class PatternDeskPromises {
     /** Solutions that double: 4000 bytes are written, more are not. */
     private static void sizesAtTheBound() {
         String shape = "con f:i->i->i->i->i;met A:i;met B:i;met C:i;met D:i;";
-        PatternDesk desk = solved(shape + "eq A=f B B B B;eq B=f C C C C;eq C=f D D D D;", 0);
+        Desk desk = solved(shape + "eq A=f B B B B;eq B=f C C C C;eq C=f D D D D;", 0);
         int third = 1 + 4 * 3;
         int second = 1 + 4 * (third + 3);
         due("size(2)", desk.size(2), third);
@@ -581,14 +468,14 @@ public final class PatternDeskPromises {
         dueBound("ccc", 4001, NONE);
         dueBound("cccccccc", 4006, NONE);
         // Unknowns are numbered through solutions that are too long to be written.
-        PatternDesk open = solved("con f:i->i->i->i->i;met A:i;met N:i;met M:i;met P:i;met Q:i;eq P=f Q Q Q Q;"
+        Desk open = solved("con f:i->i->i->i->i;met A:i;met N:i;met M:i;met P:i;met Q:i;eq P=f Q Q Q Q;"
                 + "eq Q=" + BLOCK.replace('P', 'M') + ";eq A=f(f P P P P)(f P P P P)(f P P P P)P;eq N=N;", 0);
         due("size(0) of the open one", open.size(0), NONE);
         due("fresh() of the open one", open.fresh(), 2);
         dueText("N behind it", solution(open, 1), "h1");
         dueText("M in it", solution(open, 2), "h0");
         // A side may be too long where no solution is.
-        PatternDesk sides = solved("con f:i->i->i->i->i;con a:i;met P:i;met Q:i;met R:i;eq P=f Q Q Q Q;eq Q=f R R R R;"
+        Desk sides = solved("con f:i->i->i->i->i;con a:i;met P:i;met Q:i;met R:i;eq P=f Q Q Q Q;eq Q=f R R R R;"
                 + "eq R=" + BLOCK.replace('P', 'a') + ";eq f P P P P=f P P P P;", 0);
         due("size(0) of the short ones", sides.size(0), 1169);
         due("size(1) of the short ones", sides.size(1), 289);
@@ -606,7 +493,7 @@ public final class PatternDeskPromises {
         String text = "con f:i->i->i->i->i;con a:i;con " + name + ":i;met A:i;met P:i;met Q:i;met R:i;"
                 + "eq R=f a a a a;eq Q=f R R R R;eq P=f Q Q Q Q;"
                 + "eq A=f(f P P P P)(f P P P P)(f P P P P)(f P P P(f P P P(f Q Q Q " + name + ")));";
-        PatternDesk desk = solved(text, 0);
+        Desk desk = solved(text, 0);
         due("size(0) of " + text, desk.size(0), size);
         due("first letter of " + text, desk.letter(0, 0), size == NONE ? NONE : 'f');
         due("last letter of " + text, desk.letter(0, bytes - 1), size == NONE ? NONE : ')');
@@ -619,8 +506,8 @@ public final class PatternDeskPromises {
     }
 
     private static void promise9Letter() {
-        section = "promise 9";
-        PatternDesk desk = solved("con f:i->i;met M:i->i;met N:i;eq M=\\x:i.f(f x);", 0);
+        section("promise 9");
+        Desk desk = solved("con f:i->i;met M:i->i;met N:i;eq M=\\x:i.f(f x);", 0);
         dueText("solution 0", solution(desk, 0), "\\x0.f (f x0)");
         due("letter(0, 0)", desk.letter(0, 0), '\\');
         due("letter(0, 11)", desk.letter(0, 11), ')');
@@ -637,8 +524,8 @@ public final class PatternDeskPromises {
     }
 
     private static void promise10Side() {
-        section = "promise 10";
-        PatternDesk desk = solved("con f:i->i;met M:i->i;eq \\x:i.M x=\\x:i.f x;eq f=f;eq \\x:i.\\y:i.M y=\\x:i.f;", 0);
+        section("promise 10");
+        Desk desk = solved("con f:i->i;met M:i->i;eq \\x:i.M x=\\x:i.f x;eq f=f;eq \\x:i.\\y:i.M y=\\x:i.f;", 0);
         dueText("side 0 of 0", written(desk, 0, 0), "\\x0.f x0");
         dueText("side 1 of 0", written(desk, 0, 1), "\\x0.f x0");
         dueText("side 0 of 1", written(desk, 1, 0), "\\x0.f x0");
@@ -654,19 +541,19 @@ public final class PatternDeskPromises {
         due("side(0, 0) before solve()", desk.side(0, 0), NONE);
         // Variables have as many digits as they need.
         String binders = "\\a:i.\\b:i.\\c:i.\\d:i.\\e:i.\\f:i.\\g:i.\\h:i.\\j:i.\\k:i.\\l:i.\\m:i.";
-        PatternDesk tenth = solved("eq " + binders + "k=" + binders + "k;", 0);
-        PatternDesk eleventh = solved("eq " + binders + "l=" + binders + "l;", 0);
+        Desk tenth = solved("eq " + binders + "k=" + binders + "k;", 0);
+        Desk eleventh = solved("eq " + binders + "l=" + binders + "l;", 0);
         String around = "\\x0.\\x1.\\x2.\\x3.\\x4.\\x5.\\x6.\\x7.\\x8.\\x9.\\x10.\\x11.";
         dueText("the tenth of many", written(tenth, 0, 1), around + "x9");
         dueText("the eleventh of many", written(eleventh, 0, 0), around + "x10");
         // The sides have the numbers and the orders of the solutions.
-        PatternDesk numbered = solved("met M:i->i;met N:i->i->i;eq \\x:i.\\y:i.N y x=\\x:i.\\y:i.N y x;", 0);
+        Desk numbered = solved("met M:i->i;met N:i->i->i;eq \\x:i.\\y:i.N y x=\\x:i.\\y:i.N y x;", 0);
         dueText("an open side", written(numbered, 0, 0), "\\x0.\\x1.h1 x1 x0");
     }
 
     private static void promise11SideLetter() {
-        section = "promise 11";
-        PatternDesk desk = solved("con f:i->i;met M:i->i;eq \\x:i.M x=\\x:i.f x;", 0);
+        section("promise 11");
+        Desk desk = solved("con f:i->i;met M:i->i;eq \\x:i.M x=\\x:i.f x;", 0);
         due("sideLetter(0, 0, 0)", desk.sideLetter(0, 0, 0), '\\');
         due("sideLetter(0, 1, 4)", desk.sideLetter(0, 1, 4), 'f');
         due("letter(0, 1)", desk.letter(0, 1), 'x');
