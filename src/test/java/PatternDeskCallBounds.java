@@ -1,3 +1,6 @@
+import java.util.ArrayList;
+import java.util.List;
+
 /** The document's sentences on calls, solving and writing that name a boundary case, on both sides of it. */
 public final class PatternDeskCallBounds extends Dues {
     private static final int LEAST = Integer.MIN_VALUE;
@@ -7,6 +10,8 @@ public final class PatternDeskCallBounds extends Dues {
     public static void main(String[] args) {
         theLastCall();
         manyDearCalls();
+        manyTypes();
+        likeTexts();
         newObject();
         feedUpToFull();
         feedHighestByteFirst();
@@ -104,6 +109,67 @@ public final class PatternDeskCallBounds extends Dues {
             due("load of another in round " + round, load(desk, SMALL), 0);
             due("solve() of another in round " + round, desk.solve(), 0);
             dueText("solution of another in round " + round, solution(desk, 0), "\\x0.f x0");
+        }
+    }
+
+    /** All types of so many atoms, of o and i. */
+    private static List<String> types(int atoms) {
+        List<String> made = new ArrayList<>();
+        if (atoms == 1) {
+            made.add("o");
+            made.add("i");
+        }
+        for (int left = 1; left < atoms; left++) {
+            for (String from : types(left)) {
+                for (String to : types(atoms - left)) {
+                    made.add((left == 1 ? from : "(" + from + ")") + "->" + to);
+                }
+            }
+        }
+        return made;
+    }
+
+    /** An object that has held hundreds of types, NAMEs and variables answers as a new one does. */
+    private static void manyTypes() {
+        section("many types on one object");
+        List<String> types = types(5);
+        due("how many types there are", types.size(), 448);
+        Desk desk = new Desk();
+        for (int k = 0; desk.calls() < Desk.MOST_CALLS - 16; k++) {
+            StringBuilder text = new StringBuilder();
+            for (int j = 0; j < 10 && text.length() < 210; j++) {
+                // 97 has no divisor in common with 448: no type comes twice.
+                text.append(j % 2 == 0 ? "met m" : "con c").append(j).append(':').append(types.get((10 * k + j) * 97 % 448)).append(';');
+            }
+            Desk fresh = solved(text.toString(), 0);
+            due("load of " + text, load(desk, text.toString()), 0);
+            due("solve() of " + text, desk.solve(), 0);
+            due("size(" + k % 4 + ") of " + text, desk.size(k % 4), fresh.size(k % 4));
+        }
+    }
+
+    /** Texts of one shape: what is asked of the second is not answered from the first. */
+    private static void likeTexts() {
+        section("texts that are alike on one object");
+        Desk desk = new Desk();
+        String text = "con a:i;con b:i;met M:i;eq M=";
+        for (String name : new String[] {"a", "b", "b", "a"}) {
+            due("load of " + text + name, load(desk, text + name + ";"), 0);
+            due("solve()", desk.solve(), 0);
+            due("letter(0, 0)", desk.letter(0, 0), name.charAt(0));
+        }
+        for (String name : new String[] {"a", "b", "b", "a"}) {
+            due("load of " + text + name, load(desk, text + name + ";"), 0);
+            due("solve()", desk.solve(), 0);
+            due("sideLetter(0, 0, 0)", desk.sideLetter(0, 0, 0), name.charAt(0));
+        }
+        String orders = "met A:i->i->i->i;met B:i->i->i->i;eq \\x:i.\\y:i.\\z:i.A x y z=\\x:i.\\y:i.\\z:i.B ";
+        String[] given = {"z y x", "x y z", "y z x", "x y z", "z x y"};
+        String[] order = {"x2 x1 x0", "x0 x1 x2", "x2 x0 x1", "x0 x1 x2", "x1 x2 x0"};
+        for (int k = 0; k < given.length; k++) {
+            due("load of " + orders + given[k], load(desk, orders + given[k] + ";"), 0);
+            due("solve()", desk.solve(), 0);
+            dueText("solution of " + orders + given[k], solution(desk, 1), "\\x0.\\x1.\\x2.h0 " + order[k]);
         }
     }
 
@@ -251,6 +317,9 @@ public final class PatternDeskCallBounds extends Dues {
         dueNoUnifier("con f:i->i->i;eq f=\\x:i.\\y:i.f y x;");
         dueNoUnifier("con f:i->i;eq f=\\x:i.x;");
         dueNoUnifier("con f:i->i;con g:i->i;eq f=g;");
+        dueNoUnifier("con a:i;eq \\x:i.a=\\x:i.x;");
+        dueNoUnifier("con a:i;eq \\x:i.x=\\x:i.a;");
+        dueNoUnifier("con f:i->i;con a:i;eq \\x:i->i.f a=\\x:i->i.x a;");
         dueSolutions("eq \\x:(i->i)->i->i.x=\\x:(i->i)->i->i.\\y:i->i.\\z:i.x(\\z:i.y z)z;", 0);
     }
 
@@ -272,6 +341,10 @@ public final class PatternDeskCallBounds extends Dues {
         dueNoUnifier("met M:i;con f:i->i;eq \\x:i.M=\\x:i.f x;");
         dueNoUnifier("met M:(i->i)->i;con a:i;eq \\x:i->i.\\y:i.M x=\\x:i->i.\\y:i.x y;");
         dueSolutions("met M:(i->i)->i;con a:i;eq \\x:i->i.\\y:i.M x=\\x:i->i.\\y:i.x a;", 0, "\\x0.x0 a");
+        // An unknown may stand on either side.
+        dueSolutions("con f:i->i;met M:i->i;eq f=f;eq f=f;eq \\x:i.f(f x)=\\x:i.M x;", 0, "\\x0.f (f x0)");
+        dueSolutions("con f:i->i;met M:i->i;eq f=f;eq f=f;eq \\x:i.M x=\\x:i.f(f x);", 0, "\\x0.f (f x0)");
+        dueNoUnifier("con f:i->i;met M:i;eq f=f;eq f=f;eq \\x:i.f(f x)=\\x:i.M;");
         // All eqs together.
         dueSolutions("met M:i;con a:i;con b:i;eq M=a;eq a=M;", 0, "a");
         dueNoUnifier("met M:i;con a:i;con b:i;eq M=a;eq M=b;");
@@ -365,6 +438,8 @@ public final class PatternDeskCallBounds extends Dues {
         dueSolutions("met M:(i->i)->i;", 1, "\\x0.h0 (\\x1.x0 x1)");
         dueSolutions("met M:i->(i->i)->i;", 1, "\\x0.\\x1.h0 x0 (\\x2.x1 x2)");
         dueSolutions("met M:(i->i->i)->i->i;", 1, "\\x0.\\x1.h0 (\\x2.\\x3.x0 x2 x3) x1");
+        dueSolutions("met M:((i->i)->i->i)->i;", 1, "\\x0.h0 (\\x1.\\x2.x0 (\\x3.x1 x3) x2)");
+        dueSolutions("met M:(i->(i->i)->i)->i;", 1, "\\x0.h0 (\\x1.\\x2.x0 x1 (\\x3.x2 x3))");
     }
 
     // ---- 4000 bytes

@@ -16,6 +16,7 @@ public final class PatternDeskOracle {
     private static final int NONE = PatternDesk.NONE;
     private static int wrong = 0;
     private static final int[] seen = new int[12];
+    private static Desk desk = new Desk();
 
     public static void main(String[] args) {
         int texts = args.length > 0 ? Integer.parseInt(args[0]) : TEXTS;
@@ -48,7 +49,7 @@ public final class PatternDeskOracle {
         if (text.length() > 240) {
             return;
         }
-        PatternDesk desk = new PatternDesk();
+        keepCalls(40);
         int loaded = load(desk, text);
         Reading reading = new Reading(text);
         try {
@@ -67,11 +68,20 @@ public final class PatternDeskOracle {
         due(text, "count(1)", desk.count(1), reading.unknowns.size());
         due(text, "count(2)", desk.count(2), reading.sides.size() / 2);
         if (loaded == 0) {
-            compareSolutions(text, desk, reading);
+            compareSolutions(text, reading);
         }
     }
 
-    private static void compareSolutions(String text, PatternDesk desk, Reading reading) {
+    /** One object is used for one text after the other: what an earlier text left behind would show. */
+    private static boolean keepCalls(int calls) {
+        if (desk.calls() + calls <= Desk.MOST_CALLS) {
+            return true;
+        }
+        desk = new Desk();
+        return false;
+    }
+
+    private static void compareSolutions(String text, Reading reading) {
         int answer = desk.solve();
         Solving solving = new Solving(reading);
         try {
@@ -87,7 +97,7 @@ public final class PatternDeskOracle {
             Writing writing = new Writing(solving);
             due(text, "fresh()", desk.fresh(), writing.numbers.size());
             seen[9] += writing.numbers.isEmpty() ? 0 : 1;
-            Asking asking = new Asking(desk, text);
+            Asking asking = new Asking(text);
             for (int k = 0; k < reading.unknowns.size(); k++) {
                 String want = writing.write(Solving.longForm(reading.unknowns.get(k)));
                 seen[10] += want.length() > 4000 ? 1 : 0;
@@ -110,31 +120,25 @@ public final class PatternDeskOracle {
         return made;
     }
 
-    private static int load(PatternDesk desk, String text) {
+    private static int load(Desk desk, String text) {
         for (int at = 0; at < text.length(); at += 20) {
             desk.feed(word(text, at), word(text, at + 4), word(text, at + 8), word(text, at + 12), word(text, at + 16));
         }
         return desk.load(text.length());
     }
 
-    /** Asks for whole texts, on a new object before the calls of one are used up. */
+    /** Asks for whole texts, on a new object when the calls of one are used up. */
     private static final class Asking {
-        private PatternDesk desk;
         private final String text;
-        private int calls = 30;
 
-        Asking(PatternDesk desk, String text) {
-            this.desk = desk;
+        Asking(String text) {
             this.text = text;
         }
 
         private void called() {
-            calls++;
-            if (calls > 500) {
-                desk = new PatternDesk();
+            if (!keepCalls(1)) {
                 load(desk, text);
                 desk.solve();
-                calls = 30;
             }
         }
 
