@@ -11,6 +11,7 @@ public final class PatternDeskCallBounds extends Dues {
         theLastCall();
         manyDearCalls();
         manyTypes();
+        manyLongForms();
         likeTexts();
         newObject();
         feedUpToFull();
@@ -145,6 +146,22 @@ public final class PatternDeskCallBounds extends Dues {
             due("load of " + text, load(desk, text.toString()), 0);
             due("solve() of " + text, desk.solve(), 0);
             due("size(" + k % 4 + ") of " + text, desk.size(k % 4), fresh.size(k % 4));
+        }
+    }
+
+    /** The same for long forms, which have far more parts than the text has NAMEs. */
+    private static void manyLongForms() {
+        section("many long forms on one object");
+        String term = "k" + times("(g f)", 4);
+        String text = "con f:(i->i)->i;con g:((i->i)->i)->i;con k:i->i->i->i->i;met M:i;eq M=" + term + ";eq " + term + "=" + term + ";";
+        String want = "k" + times(" (g (\\x0.f (\\x1.x0 x1)))", 4);
+        Desk desk = new Desk();
+        while (desk.calls() < Desk.MOST_CALLS - 14) {
+            due("load of " + text, load(desk, text), 0);
+            due("solve() of " + text, desk.solve(), 0);
+            due("size(0) of " + text, desk.size(0), want.length());
+            due("side(1, 1) of " + text, desk.side(1, 1), want.length());
+            due("sideLetter(1, 1, 99) of " + text, desk.sideLetter(1, 1, 99), byteOf(want, 99));
         }
     }
 
@@ -299,6 +316,8 @@ public final class PatternDeskCallBounds extends Dues {
                 due("load(" + n + ") behind " + text, desk.load(n), NONE);
             }
             dueText("the answers behind " + text, answers(desk), before);
+            due("feed behind " + text, desk.feed(-1, -1, -1, -1, -1), 40);
+            due("load(41) behind " + text, desk.load(41), NONE);
             due("the tape behind " + text, desk.load(15), 0);
             due("count(1) behind " + text, desk.count(1), 1);
             due("count(2) behind " + text, desk.count(2), 1);
@@ -516,6 +535,8 @@ public final class PatternDeskCallBounds extends Dues {
         Desk none = new Desk();
         for (int what : EDGES) {
             due("told(" + what + ") of a new object", none.told(what), NONE);
+            due("load(1) of a new object", none.load(1), NONE);
+            due("told(" + what + ") behind a refused load", none.told(what), NONE);
         }
         section("4: told of the latest load()");
         Desk desk = new Desk();
