@@ -238,17 +238,22 @@ public final class PatternDeskTextBounds extends Dues {
 
     // ---- Terms: what lies in at most 20
 
+    /** A part n times, with the mark behind as many as may be had, and one: there the fault lies. */
+    private static String deep(String part, int n, int most) {
+        int before = Math.min(n, most + 1);
+        return times(part, before) + "^" + times(part, n - before);
+    }
+
     private static void deepTypes() {
         section("a TYPE may lie in at most 20");
         for (String start : List.of("con a:", "met a:", "eq \\x:")) {
-            int around = start.startsWith("eq") ? 1 : 0;
+            // The TYPE of a \ lies in a TERM already.
+            int most = start.startsWith("eq") ? 19 : 20;
             String end = start.startsWith("eq") ? ".x=\\x:i.x;" : ";";
             for (int n = 17; n <= 23; n++) {
-                String brackets = start + times("(", Math.min(n, 21 - around)) + "^" + times("(", n - Math.min(n, 21 - around)) + "i"
-                        + times(")", n) + end;
-                String arrows = start + times("o->", Math.min(n, 21 - around)) + "^" + times("o->", n - Math.min(n, 21 - around))
-                        + "o" + end;
-                if (n + around <= 20) {
+                String brackets = start + deep("(", n, most) + "i" + times(")", n) + end;
+                String arrows = start + deep("o->", n, most) + "o" + end;
+                if (n <= most) {
                     dueRight(plain(brackets));
                     dueWrong(plain(arrows), 6, start.length());
                 } else {
@@ -276,9 +281,8 @@ public final class PatternDeskTextBounds extends Dues {
         section("a TERM may lie in at most 20");
         String start = "con f:i->i;con a:i;eq ";
         for (int n = 17; n <= 23; n++) {
-            int inside = Math.min(n, 21);
-            String left = start + times("f(", inside) + "^" + times("f(", n - inside) + "a" + times(")", n) + "=a;";
-            String right = start + "a=" + times("f(", inside) + "^" + times("f(", n - inside) + "a" + times(")", n) + ";";
+            String left = start + deep("f(", n, 20) + "a" + times(")", n) + "=a;";
+            String right = start + "a=" + deep("f(", n, 20) + "a" + times(")", n) + ";";
             if (n <= 20) {
                 dueRight(plain(left));
                 dueRight(plain(right));
